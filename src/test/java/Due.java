@@ -15,11 +15,15 @@ final class Due {
         is(call, got ? 1L : 0L, want ? 1L : 0L);
     }
 
-    void same(String what, String got, String want) {
+    /** Every answer in the two looks must be the same; names the first that is not. */
+    void same(String what, int[] got, int[] want) {
         asked++;
-        if (!got.equals(want)) {
-            wrong++;
-            System.out.println(what + ": " + firstDifference(got, want));
+        for (int i = 0; i < want.length; i++) {
+            if (got[i] != want[i]) {
+                wrong++;
+                System.out.println(what + ": " + Look.NAMES.get(i) + " is " + got[i] + ", due is " + want[i]);
+                return;
+            }
         }
     }
 
@@ -32,16 +36,5 @@ final class Due {
         if (asked == 0 || wrong != 0) {
             System.exit(1);
         }
-    }
-
-    private static String firstDifference(String got, String want) {
-        String[] g = got.split("\n");
-        String[] w = want.split("\n");
-        for (int i = 0; i < g.length && i < w.length; i++) {
-            if (!g[i].equals(w[i])) {
-                return "is " + g[i] + ", due is " + w[i];
-            }
-        }
-        return "the lengths differ";
     }
 }

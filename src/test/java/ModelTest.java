@@ -41,7 +41,7 @@ public final class ModelTest {
             all += weight[i];
         }
         int steps = 300 + pick(500);
-        due.same("run " + number + " at the start", real.look(), model.look());
+        due.same("run " + number + " at the start", Look.at(real), Look.at(model));
         for (int i = 0; i < steps && !due.anyWrong(); i++) {
             int at = pick(all);
             int kind = 0;
@@ -113,7 +113,7 @@ public final class ModelTest {
         }
         if (real.stats(QuicStreams.STAT_LOST) > lostBefore) seen[5]++;
         if (real.stats(QuicStreams.STAT_SPURIOUS) > spuriousBefore) seen[6]++;
-        due.same("after " + call, real.look(), model.look());
+        due.same("after " + call, Look.at(real), Look.at(model));
     }
 
     private void countResent(Face model, int pn) {

@@ -1,0 +1,200 @@
+/** Promise 6: deliver. */
+public final class P06DeliverTest {
+    private static final Due due = new Due();
+
+    private static void refused() {
+        Real x = new Real(32, 128, 1, 100);
+        x.fill(0, 3, 1);
+        int[] empty = Look.at(x);
+        for (int slot : new int[] {Integer.MIN_VALUE, -1, 0, 1, 8, Integer.MAX_VALUE}) {
+            due.is("empty: deliver(0, " + slot + ")", x.deliver(0, slot), false);
+            due.is("empty: deliver(1, " + slot + ")", x.deliver(1, slot), false);
+        }
+        due.same("an empty channel changes nothing", Look.at(x), empty);
+        x.send(2);
+        x.sendAck();
+        int[] before = Look.at(x);
+        for (int dir : new int[] {Integer.MIN_VALUE, -1, 2, 3, Integer.MAX_VALUE}) {
+            due.is("deliver(" + dir + ", 0)", x.deliver(dir, 0), false);
+        }
+        for (int slot : new int[] {Integer.MIN_VALUE, -1, 2, 8, Integer.MAX_VALUE}) {
+            due.is("deliver(0, " + slot + ")", x.deliver(0, slot), false);
+        }
+        due.is("deliver(1, 1)", x.deliver(1, 1), false);
+        due.is("deliver(1, -1)", x.deliver(1, -1), false);
+        due.same("a wrong argument changes nothing", Look.at(x), before);
+        due.is("the last slot", x.deliver(0, 1), true);
+    }
+
+    private static void slotsMoveDown() {
+        Real x = new Real(32, 128, 1, 100);
+        x.fill(0, 8, 40);
+        x.send(8);
+        due.is("deliver(0, 3)", x.deliver(0, 3), true);
+        int[] want = {0, 1, 2, 4, 5, 6, 7, -1};
+        for (int i = 0; i < 8; i++) due.is("channelPn(" + i + ")", x.channelPn(i), want[i]);
+        due.is("received(3)", x.received(3), true);
+        due.is("received(2)", x.received(2), false);
+        due.is("rhigh", x.streamInfo(0, QuicStreams.INFO_RHIGH), 4);
+        due.is("received bytes", x.streamInfo(0, QuicStreams.INFO_RECEIVED), 1);
+        x.deliver(0, 6);
+        due.is("the last one left", x.received(7), true);
+        due.is("count", x.stats(QuicStreams.STAT_DATA_IN_CHANNEL), 6);
+        for (int i = 0; i < 6; i++) x.deliver(0, 0);
+        for (int i = 0; i < 8; i++) due.is("read " + i, x.read(0), 40 + i);
+    }
+
+    private static void dataLeavesSender() {
+        Real x = new Real(4, 6, 8, 100);
+        x.fill(0, 2, 1);
+        x.fill(3, 2, 3);
+        x.send(1);
+        x.sendAck();
+        x.deliver(0, 0);
+        due.is("state", x.packetState(0), QuicStreams.PKT_IN_FLIGHT);
+        due.is("outstanding", x.streamInfo(0, QuicStreams.INFO_OUTSTANDING), 2);
+        due.is("consumed", x.streamInfo(0, QuicStreams.INFO_CONSUMED), 0);
+        due.is("last built ACK", x.stats(QuicStreams.STAT_ACK_RANGES), 0);
+        due.is("ACK channel", x.stats(QuicStreams.STAT_ACK_IN_CHANNEL), 1);
+        due.is("rhigh of 3", x.streamInfo(3, QuicStreams.INFO_RHIGH), 2);
+        due.is("rhigh of 1", x.streamInfo(1, QuicStreams.INFO_RHIGH), 0);
+        due.is("violations", x.stats(QuicStreams.STAT_VIOLATIONS), 0);
+    }
+
+    /** The sender keeps within the credits, so even using them up is no violation. */
+    private static void creditUsedUp() {
+        Real x = new Real(4, 6, 8, 100);
+        x.fill(0, 8, 1);
+        x.fill(1, 8, 1);
+        x.pass();
+        due.is("rhigh of 0", x.streamInfo(0, QuicStreams.INFO_RHIGH), 4);
+        due.is("rhigh of 1", x.streamInfo(1, QuicStreams.INFO_RHIGH), 2);
+        due.is("violations", x.stats(QuicStreams.STAT_VIOLATIONS), 0);
+        due.is("no more", x.sendData(), QuicStreams.SEND_NOTHING);
+    }
+
+    private static void ackCarriesItsOwnTime() {
+        Real x = new Real(4, 6, 1, 100);
+        x.fill(0, 4, 1);
+        x.pass();
+        x.sendAck();
+        x.pass();
+        x.read(0);
+        x.read(0);
+        x.sendAck();
+        x.sendAck();
+        // The first ACK is the oldest: it knows of packet 0 alone, and of no reading.
+        due.is("deliver(1, 0)", x.deliver(1, 0), true);
+        due.is("packetState(0)", x.packetState(0), QuicStreams.PKT_ACKED);
+        due.is("packetState(1)", x.packetState(1), QuicStreams.PKT_IN_FLIGHT);
+        due.is("credit(0)", x.credit(0), 4);
+        due.is("credit(4)", x.credit(4), 6);
+        due.is("largest", x.stats(QuicStreams.STAT_LARGEST), 0);
+        due.is("ACKs left", x.stats(QuicStreams.STAT_ACK_IN_CHANNEL), 2);
+        x.deliver(1, 1);
+        due.is("packetState(1)", x.packetState(1), QuicStreams.PKT_ACKED);
+        due.is("credit(0)", x.credit(0), 6);
+        due.is("credit(4)", x.credit(4), 8);
+        due.is("done", x.streamInfo(0, QuicStreams.INFO_DONE), 2);
+        due.is("outstanding", x.streamInfo(0, QuicStreams.INFO_OUTSTANDING), 0);
+    }
+
+    private static void oldAckLast() {
+        Real x = new Real(4, 6, 1, 100);
+        x.fill(0, 4, 1);
+        x.sendAck();
+        x.pass();
+        x.read(0);
+        x.sendAck();
+        x.deliver(1, 1);
+        due.is("credit(0)", x.credit(0), 5);
+        due.is("largest", x.stats(QuicStreams.STAT_LARGEST), 0);
+        int[] before = Look.at(x);
+        x.deliver(1, 0);
+        before[Look.NAMES.indexOf("stats 7")] = 0;
+        due.same("an older ACK without ranges lowers nothing", Look.at(x), before);
+    }
+
+    private static void olderLargestStays() {
+        Real x = new Real(32, 128, 1, 100);
+        x.fill(0, 4, 1);
+        x.pass();
+        x.sendAck();
+        x.pass();
+        x.sendAck();
+        x.deliver(1, 1);
+        x.deliver(1, 0);
+        due.is("largest", x.stats(QuicStreams.STAT_LARGEST), 1);
+        due.is("spurious", x.stats(QuicStreams.STAT_SPURIOUS), 0);
+        due.is("done", x.streamInfo(0, QuicStreams.INFO_DONE), 2);
+    }
+
+    private static void manyRanges() {
+        Real x = new Real(32, 128, 1, 1000);
+        x.fill(0, 32, 1);
+        for (int i = 0; i < 9; i++) {
+            if (i % 2 == 0) x.pass(); else x.lose();
+        }
+        due.is("ranges", x.passAck(), 4);
+        // Packet 0 was handed over, but its run did not fit into the ACK.
+        int[] want = {3, 3, 2, 3, 2, 3, 2, 1, 2};
+        for (int pn = 0; pn < 9; pn++) due.is("packetState(" + pn + ")", x.packetState(pn), want[pn]);
+        due.is("lost", x.stats(QuicStreams.STAT_LOST), 4);
+        due.is("largest", x.stats(QuicStreams.STAT_LARGEST), 8);
+        due.is("pending", x.streamInfo(0, QuicStreams.INFO_PENDING), 32 - 9 + 4);
+    }
+
+    /** Packet 0 is declared lost while it is only late; its ACK comes after all. */
+    private static void spurious() {
+        Real x = new Real(32, 128, 2, 1000);
+        x.fill(0, 8, 60);
+        x.send(4);
+        x.deliver(0, 3);
+        x.passAck();
+        due.is("packetState(0)", x.packetState(0), QuicStreams.PKT_LOST);
+        due.is("packetState(1)", x.packetState(1), QuicStreams.PKT_IN_FLIGHT);
+        due.is("pending", x.streamInfo(0, QuicStreams.INFO_PENDING), 2);
+        due.is("sent again", x.sendData(), 4);
+        due.is("frame(4, 0)", x.frame(4, 0), 2);
+        due.is("outstanding", x.streamInfo(0, QuicStreams.INFO_OUTSTANDING), 6);
+        x.deliver(0, 0);
+        x.passAck();
+        due.is("packetState(0) in the end", x.packetState(0), QuicStreams.PKT_ACKED);
+        due.is("spurious", x.stats(QuicStreams.STAT_SPURIOUS), 1);
+        due.is("lost stays", x.stats(QuicStreams.STAT_LOST), 1);
+        due.is("done", x.streamInfo(0, QuicStreams.INFO_DONE), 4);
+        due.is("outstanding", x.streamInfo(0, QuicStreams.INFO_OUTSTANDING), 4);
+        due.is("packet 4 is still in flight", x.packetState(4), QuicStreams.PKT_IN_FLIGHT);
+        x.passAck();
+        due.is("spurious counts once", x.stats(QuicStreams.STAT_SPURIOUS), 1);
+        due.is("nothing to send", x.sendData(), QuicStreams.SEND_NOTHING);
+    }
+
+    /** The late ACK also completes bytes that wait for their second sending. */
+    private static void spuriousWhilePending() {
+        Real x = new Real(32, 128, 2, 1000);
+        x.fill(0, 8, 60);
+        x.send(4);
+        x.deliver(0, 3);
+        x.passAck();
+        due.is("pending", x.streamInfo(0, QuicStreams.INFO_PENDING), 2);
+        x.deliver(0, 0);
+        x.passAck();
+        due.is("pending after the late ACK", x.streamInfo(0, QuicStreams.INFO_PENDING), 0);
+        due.is("nothing to send", x.sendData(), QuicStreams.SEND_NOTHING);
+    }
+
+    public static void main(String[] args) {
+        refused();
+        slotsMoveDown();
+        dataLeavesSender();
+        creditUsedUp();
+        ackCarriesItsOwnTime();
+        oldAckLast();
+        olderLargestStays();
+        manyRanges();
+        spurious();
+        spuriousWhilePending();
+        due.finish();
+    }
+}

@@ -169,6 +169,15 @@ public final class P04SendDataTest {
         due.is("no numbers goes before nothing", x.sendData(), QuicStreams.SEND_NO_NUMBERS);
     }
 
+    private static void allStreamsSent() {
+        Real x = new Real(32, 128, 8, 10);
+        for (int s = 0; s < 4; s++) x.fill(s, 32, 1);
+        for (int i = 0; i < 16; i++) due.is("pass", x.pass(), i);
+        int[] before = Look.at(x);
+        due.is("every byte of every stream is sent", x.sendData(), QuicStreams.SEND_NOTHING);
+        due.same("nothing to send changes nothing", Look.at(x), before);
+    }
+
     public static void main(String[] args) {
         streamsInOrder();
         budgetEndsPacket();
@@ -180,6 +189,7 @@ public final class P04SendDataTest {
         channelFull();
         noNumbers();
         noNumbersBeforeNothing();
+        allStreamsSent();
         due.finish();
     }
 }

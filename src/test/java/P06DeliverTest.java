@@ -1,3 +1,5 @@
+import java.lang.reflect.Field;
+
 /** Promise 6: deliver. */
 public final class P06DeliverTest {
     private static final Due due = new Due();
@@ -71,6 +73,76 @@ public final class P06DeliverTest {
         due.is("rhigh of 1", x.streamInfo(1, QuicStreams.INFO_RHIGH), 2);
         due.is("violations", x.stats(QuicStreams.STAT_VIOLATIONS), 0);
         due.is("no more", x.sendData(), QuicStreams.SEND_NOTHING);
+    }
+
+    /**
+     * Sets an advertised credit as credit(5 + k) tells it. The sender never goes beyond its credit,
+     * so no run of calls leads to a violation; the receiver's rule can be tried only from inside.
+     */
+    private static void advertise(Real x, int k, int credit) throws ReflectiveOperationException {
+        Field f = QuicStreams.class.getDeclaredField("advertisedCredit");
+        f.setAccessible(true);
+        ((int[]) f.get(x.x))[k] = credit;
+        due.is("credit(" + (5 + k) + ") as set", x.credit(5 + k), credit);
+    }
+
+    private static void receiver(String when, Real x, int stream, int rhigh, int cells, int violations) {
+        due.is(when + ": rhigh", x.streamInfo(stream, QuicStreams.INFO_RHIGH), rhigh);
+        due.is(when + ": received", x.streamInfo(stream, QuicStreams.INFO_RECEIVED), cells);
+        due.is(when + ": violations", x.stats(QuicStreams.STAT_VIOLATIONS), violations);
+    }
+
+    private static void streamViolation() throws ReflectiveOperationException {
+        Real x = new Real(32, 128, 4, 100);
+        x.fill(1, 4, 7);
+        advertise(x, 1, 2);
+        due.is("pass", x.pass(), 0);
+        due.is("the packet counts as received", x.received(0), true);
+        receiver("stream credit 2", x, 1, 2, 2, 2);
+        due.is("read 0", x.read(1), 7);
+        due.is("read 1", x.read(1), 8);
+        due.is("read 2", x.read(1), -1);
+    }
+
+    private static void connectionViolation() throws ReflectiveOperationException {
+        Real x = new Real(32, 128, 4, 100);
+        x.fill(0, 2, 7);
+        x.fill(1, 2, 9);
+        advertise(x, 4, 3);
+        x.pass();
+        receiver("stream 0", x, 0, 2, 2, 1);
+        receiver("stream 1", x, 1, 1, 1, 1);
+    }
+
+    /** The credit is counted up to the greatest offset, gaps with it; bytes in a gap are then free. */
+    private static void violationBehindGap() throws ReflectiveOperationException {
+        Real x = new Real(32, 128, 2, 100);
+        x.fill(0, 4, 7);
+        x.send(2);
+        advertise(x, 4, 3);
+        x.deliver(0, 1);
+        receiver("offsets 2 and 3 first", x, 0, 3, 1, 1);
+        x.deliver(0, 0);
+        receiver("then 0 and 1", x, 0, 3, 3, 1);
+
+        Real y = new Real(32, 128, 2, 100);
+        y.fill(0, 4, 7);
+        y.send(2);
+        advertise(y, 4, 2);
+        y.deliver(0, 1);
+        receiver("no credit for offset 2", y, 0, 0, 0, 2);
+        y.deliver(0, 0);
+        receiver("credit for 0 and 1", y, 0, 2, 2, 2);
+    }
+
+    private static void ackWithoutRanges() {
+        Real x = new Real(4, 6, 1, 1);
+        x.fill(0, 4, 1);
+        x.send(4);
+        x.tick(5);
+        int[] before = Look.at(x);
+        due.is("ranges", x.passAck(), 0);
+        due.same("an ACK of nothing changes nothing", Look.at(x), before);
     }
 
     private static void ackCarriesItsOwnTime() {
@@ -184,11 +256,15 @@ public final class P06DeliverTest {
         due.is("nothing to send", x.sendData(), QuicStreams.SEND_NOTHING);
     }
 
-    public static void main(String[] args) {
+    public static void main(String[] args) throws ReflectiveOperationException {
         refused();
         slotsMoveDown();
         dataLeavesSender();
         creditUsedUp();
+        streamViolation();
+        connectionViolation();
+        violationBehindGap();
+        ackWithoutRanges();
         ackCarriesItsOwnTime();
         oldAckLast();
         olderLargestStays();

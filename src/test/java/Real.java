@@ -1,6 +1,6 @@
 /** The class under test behind the common face. */
 final class Real implements Face {
-    private final QuicStreams x;
+    final QuicStreams x;
 
     Real(int streamWindow, int connWindow, int maxPayload, int lossDelay) {
         x = new QuicStreams(streamWindow, connWindow, maxPayload, lossDelay);

@@ -27,6 +27,16 @@ final class Due {
         }
     }
 
+    /** Only the named answers may differ between the two looks. */
+    void onlyChanged(String what, int[] got, int[] before, String... names) {
+        int[] want = before.clone();
+        for (String name : names) {
+            int i = Look.NAMES.indexOf(name);
+            want[i] = got[i];
+        }
+        same(what, got, want);
+    }
+
     boolean anyWrong() {
         return wrong != 0;
     }

@@ -42,6 +42,53 @@ public final class P01ConstructionTest {
         due.is("lossDelay " + given + ": packetState(0) at the delay", x.packetState(0), QuicStreams.PKT_LOST);
     }
 
+    /** All four arguments beyond the same end at once. */
+    private static void together(int given, int window, int conn, int payload, int delay) {
+        Real x = new Real(given, given, given, given);
+        Real y = new Real(window, conn, payload, delay);
+        String all = "all arguments " + given;
+        due.same(all, Look.at(x), Look.at(y));
+        for (int k = 0; k < 10; k++) due.is(all + ": credit(" + k + ")", x.credit(k), k % 5 == 4 ? conn : window);
+        for (Real z : new Real[] {x, y}) {
+            z.fill(2, 32, 1);
+            z.pass();
+            z.read(2);
+            z.passAck();
+            z.lose();
+            z.pass();
+            z.passAck();
+        }
+        due.same(all + ", in use", Look.at(x), Look.at(y));
+        if (delay > 1) {
+            x.tick(delay - 1);
+            y.tick(delay - 1);
+            due.same(all + ", before the delay", Look.at(x), Look.at(y));
+        }
+        x.tick(1);
+        y.tick(1);
+        due.same(all + ", at the delay", Look.at(x), Look.at(y));
+    }
+
+    /** sendAck, too, reckons with the clamped windows and not with the given ones. */
+    private static void clampedInSendAck() {
+        Real x = new Real(-5, -5, 8, 10);
+        x.fill(3, 2, 1);
+        x.pass();
+        due.is("one byte is let through", x.frame(0, 3), 1);
+        x.read(3);
+        x.sendAck();
+        due.is("windows -5: credit(8)", x.credit(8), 2);
+        due.is("windows -5: credit(5)", x.credit(5), 1);
+        due.is("windows -5: credit(9)", x.credit(9), 2);
+        Real y = new Real(99, 999, 8, 10);
+        y.fill(3, 2, 1);
+        y.pass();
+        y.read(3);
+        y.sendAck();
+        due.is("windows too large: credit(8)", y.credit(8), 32);
+        due.is("windows too large: credit(9)", y.credit(9), 128);
+    }
+
     private static void start() {
         Real x = new Real(7, 19, 5, 50);
         for (int kind = 0; kind <= 8; kind++) {
@@ -96,6 +143,11 @@ public final class P01ConstructionTest {
         for (int[] c : connWindows) connWindow(c[0], c[1]);
         for (int[] c : payloads) maxPayload(c[0], c[1]);
         for (int[] c : delays) lossDelay(c[0], c[1]);
+        together(least, 1, 1, 1, 1);
+        together(0, 1, 1, 1, 1);
+        together(1001, 32, 128, 8, 1000);
+        together(most, 32, 128, 8, 1000);
+        clampedInSendAck();
         start();
         apart();
         due.finish();

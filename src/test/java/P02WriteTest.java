@@ -55,11 +55,47 @@ public final class P02WriteTest {
         due.is("the next frame", x.frame(1, 0), 2 * 16 + 1);
     }
 
+    /** A stream is full by what was written to it, however much of that is sent, done and read. */
+    private static void staysFull() {
+        for (int s = 0; s < 4; s++) {
+            Real x = new Real(32, 128, 8, 100);
+            x.fill(s, 32, 1);
+            for (int i = 0; i < 4; i++) x.pass();
+            x.passAck();
+            for (int i = 0; i < 32; i++) x.read(s);
+            due.is("done", x.streamInfo(s, QuicStreams.INFO_DONE), 32);
+            int[] before = Look.at(x);
+            due.is("write to stream " + s + " when all is read", x.write(s, 5), false);
+            due.same("it changes nothing", Look.at(x), before);
+        }
+    }
+
+    /** The first byte, one in the middle and the last: written and pending grow, and nothing else. */
+    private static void nothingElse() {
+        for (int count : new int[] {0, 15, 31}) {
+            for (int s = 0; s < 4; s++) {
+                Real x = new Real(4, 6, 3, 100);
+                x.fill(s, count, 1);
+                x.send(2);
+                x.sendAck();
+                int pending = x.streamInfo(s, QuicStreams.INFO_PENDING);
+                int[] before = Look.at(x);
+                due.is("write", x.write(s, 77), true);
+                String stream = "streamInfo of stream " + s + ", kind ";
+                due.onlyChanged("write " + count, Look.at(x), before, stream + 0, stream + 2);
+                due.is("written", x.streamInfo(s, QuicStreams.INFO_WRITTEN), count + 1);
+                due.is("pending", x.streamInfo(s, QuicStreams.INFO_PENDING), pending + 1);
+            }
+        }
+    }
+
     public static void main(String[] args) {
         refused();
         full();
         lowBits();
         afterSending();
+        staysFull();
+        nothingElse();
         due.finish();
     }
 }

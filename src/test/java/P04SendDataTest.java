@@ -178,6 +178,145 @@ public final class P04SendDataTest {
         due.same("nothing to send changes nothing", Look.at(x), before);
     }
 
+    private static void nothing(String when, Real x) {
+        int[] before = Look.at(x);
+        due.is(when, x.sendData(), QuicStreams.SEND_NOTHING);
+        due.same(when + ", and nothing has changed", Look.at(x), before);
+    }
+
+    private static void leastWindows() {
+        Real both = new Real(1, 1, 8, 100);
+        nothing("a new object has nothing to send", both);
+        both.fill(0, 3, 1);
+        both.fill(1, 3, 1);
+        both.send(1);
+        due.is("one byte in all", both.frame(0, 0), 1);
+        due.is("none of stream 1", both.frame(0, 1), -1);
+        nothing("both credits are used", both);
+
+        Real stream = new Real(1, 128, 8, 100);
+        for (int s = 0; s < 4; s++) stream.fill(s, 3, 1);
+        stream.send(1);
+        for (int s = 0; s < 4; s++) due.is("one byte of stream " + s, stream.frame(0, s), 1);
+        nothing("the stream credits are used", stream);
+
+        Real conn = new Real(32, 1, 8, 100);
+        conn.fill(3, 3, 1);
+        conn.send(1);
+        due.is("one byte of stream 3", conn.frame(0, 3), 1);
+        conn.fill(0, 1, 1);
+        nothing("the connection credit is used", conn);
+    }
+
+    /** After a SEND_NOTHING the same number goes to the next packet, with that packet's frames alone. */
+    private static void nothingLeavesTheNumber() {
+        Real x = new Real(2, 128, 8, 100);
+        x.fill(1, 4, 1);
+        x.pass();
+        nothing("the stream credit is used", x);
+        x.read(1);
+        x.passAck();
+        due.is("sendData() with one more credit", x.sendData(), 1);
+        due.is("frame(1, 1)", x.frame(1, 1), 2 * 16 + 1);
+        for (int s : new int[] {0, 2, 3}) due.is("frame(1, " + s + ")", x.frame(1, s), -1);
+        nothing("it is used again", x);
+    }
+
+    /** No connection credit is left: new bytes of stream 0 stay, lost ones of stream 1 go again. */
+    private static void resendBehindBlockedStream() {
+        Real x = new Real(32, 4, 2, 10);
+        x.fill(1, 2, 7);
+        x.lose();
+        x.fill(2, 2, 9);
+        x.pass();
+        x.passAck();
+        x.tick(10);
+        x.fill(0, 3, 1);
+        due.is("sendData()", x.sendData(), 2);
+        due.is("frame(2, 0)", x.frame(2, 0), -1);
+        due.is("frame(2, 1)", x.frame(2, 1), 2);
+        due.is("high of 0", x.streamInfo(0, QuicStreams.INFO_HIGH), 0);
+        due.is("pending of 0", x.streamInfo(0, QuicStreams.INFO_PENDING), 3);
+        nothing("only stream 0 is left", x);
+    }
+
+    private static Real lostThenMore(int streamWindow, int connWindow) {
+        Real x = new Real(streamWindow, connWindow, 8, 10);
+        x.fill(0, 2, 1);
+        x.lose();
+        x.fill(1, 1, 1);
+        x.pass();
+        x.passAck();
+        x.tick(10);
+        x.fill(0, 5, 3);
+        x.send(1);
+        return x;
+    }
+
+    /** Offsets 0 and 1 go again, and new ones follow in the same frame until something ends it. */
+    private static void resendGoesOnIntoNewOffsets() {
+        Real conn = lostThenMore(32, 5);
+        due.is("until the connection credit ends", conn.frame(2, 0), 4);
+        due.is("high", conn.streamInfo(0, QuicStreams.INFO_HIGH), 4);
+        nothing("the connection credit is used", conn);
+        Real stream = lostThenMore(3, 128);
+        due.is("until the stream credit ends", stream.frame(2, 0), 3);
+        due.is("high", stream.streamInfo(0, QuicStreams.INFO_HIGH), 3);
+        nothing("the stream credit is used", stream);
+        Real free = lostThenMore(32, 128);
+        due.is("until the stream ends", free.frame(2, 0), 7);
+        due.is("high", free.streamInfo(0, QuicStreams.INFO_HIGH), 7);
+        nothing("all is sent", free);
+    }
+
+    private static void lastOffset() {
+        for (int s = 0; s < 4; s++) {
+            Real one = new Real(32, 128, 1, 100);
+            one.fill(s, 32, 1);
+            for (int i = 0; i < 32; i++) one.pass();
+            due.is("frame(31, " + s + ") of one byte", one.frame(31, s), 31 * 16 + 1);
+            due.is("high", one.streamInfo(s, QuicStreams.INFO_HIGH), 32);
+            nothing("stream " + s + " is sent whole", one);
+            Real eight = new Real(32, 128, 8, 100);
+            eight.fill(s, 32, 1);
+            for (int i = 0; i < 4; i++) eight.pass();
+            due.is("frame(3, " + s + ") of eight bytes", eight.frame(3, s), 24 * 16 + 8);
+            nothing("stream " + s + " is sent whole in four", eight);
+        }
+    }
+
+    private static void leastAndGreatestPayload() {
+        Real one = new Real(32, 128, 1, 100);
+        for (int s = 0; s < 4; s++) one.fill(s, 1, 1);
+        one.send(4);
+        for (int pn = 0; pn < 4; pn++) {
+            for (int s = 0; s < 4; s++) due.is("frame(" + pn + ", " + s + ")", one.frame(pn, s), pn == s ? 1 : -1);
+        }
+        Real eight = new Real(32, 128, 8, 100);
+        for (int s = 0; s < 4; s++) eight.fill(s, 3, 1);
+        eight.send(2);
+        int[][] want = {{3, 3, 2, -1}, {-1, -1, 2 * 16 + 1, 3}};
+        for (int pn = 0; pn < 2; pn++) {
+            for (int s = 0; s < 4; s++) due.is("eight: frame(" + pn + ", " + s + ")", eight.frame(pn, s), want[pn][s]);
+        }
+    }
+
+    /** Delivered but unacknowledged packets hold no place: only what is in the channel counts. */
+    private static void fullByTheChannelAlone() {
+        Real x = new Real(32, 128, 1, 100);
+        x.fill(0, 32, 1);
+        x.send(8);
+        int[] before = Look.at(x);
+        due.is("eight in the channel", x.sendData(), QuicStreams.SEND_CHANNEL_FULL);
+        due.same("a full channel changes nothing", Look.at(x), before);
+        x.deliver(0, 7);
+        due.is("one delivered", x.sendData(), 8);
+        due.is("full again", x.sendData(), QuicStreams.SEND_CHANNEL_FULL);
+        for (int i = 0; i < 8; i++) x.sendAck();
+        x.drop(0, 0);
+        due.is("a full ACK channel does not count", x.sendData(), 9);
+    }
+
     public static void main(String[] args) {
         streamsInOrder();
         budgetEndsPacket();
@@ -190,6 +329,13 @@ public final class P04SendDataTest {
         noNumbers();
         noNumbersBeforeNothing();
         allStreamsSent();
+        leastWindows();
+        nothingLeavesTheNumber();
+        resendBehindBlockedStream();
+        resendGoesOnIntoNewOffsets();
+        lastOffset();
+        leastAndGreatestPayload();
+        fullByTheChannelAlone();
         due.finish();
     }
 }

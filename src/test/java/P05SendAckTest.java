@@ -131,6 +131,93 @@ public final class P05SendAckTest {
         due.is("outstanding", x.streamInfo(0, QuicStreams.INFO_OUTSTANDING), 1);
     }
 
+    /** Every second packet arrives, 32 runs in all; once with the last number among them, once without. */
+    private static void manyRuns() {
+        for (int first = 0; first < 2; first++) {
+            Real x = new Real(32, 128, 1, 1000);
+            x.fill(0, 32, 1);
+            x.fill(1, 32, 1);
+            for (int pn = 0; pn < 64; pn++) {
+                if (pn % 2 == first) x.pass(); else x.lose();
+            }
+            due.is("sendAck()", x.sendAck(), 4);
+            for (int r = 0; r < 4; r++) range(x, r, 62 + first - 2 * r, 62 + first - 2 * r);
+            range(x, 4, -1, -1);
+        }
+    }
+
+    /** Number 0 alone and number 63 alone: runs that end where the numbers end. */
+    private static void firstAndLastNumber() {
+        Real x = new Real(32, 128, 1, 1000);
+        x.fill(0, 32, 1);
+        x.fill(1, 32, 1);
+        x.pass();
+        due.is("sendAck() of 0", x.sendAck(), 1);
+        range(x, 0, 0, 0);
+        for (int pn = 1; pn < 63; pn++) x.lose();
+        x.pass();
+        due.is("sendAck() of 0 and 63", x.sendAck(), 2);
+        range(x, 0, 63, 63);
+        range(x, 1, 0, 0);
+    }
+
+    /** Four rounds that read everything: the credits grow to 32 and 128 and stay there. */
+    private static void creditsToTheEnd() {
+        Real x = new Real(8, 32, 8, 1000);
+        int[] stream = {16, 24, 32, 32};
+        int[] conn = {64, 96, 128, 128};
+        for (int round = 0; round < 4; round++) {
+            for (int s = 0; s < 4; s++) x.fill(s, 8, 1);
+            for (int i = 0; i < 4; i++) x.pass();
+            for (int s = 0; s < 4; s++) {
+                for (int i = 0; i < 8; i++) x.read(s);
+            }
+            x.sendAck();
+            for (int s = 0; s < 4; s++) due.is("credit(" + (5 + s) + ") of round " + round, x.credit(5 + s), stream[round]);
+            due.is("credit(9) of round " + round, x.credit(9), conn[round]);
+            x.deliver(1, 0);
+        }
+        due.is("all is read", x.streamInfo(3, QuicStreams.INFO_CONSUMED), 32);
+
+        Real y = new Real(32, 128, 8, 1000);
+        for (int s = 0; s < 4; s++) y.fill(s, 32, 1);
+        for (int i = 0; i < 16; i++) y.pass();
+        for (int s = 0; s < 4; s++) {
+            for (int i = 0; i < 32; i++) y.read(s);
+        }
+        int[] before = Look.at(y);
+        due.is("sendAck() with all read", y.sendAck(), 1);
+        due.onlyChanged("the greatest credits stay", Look.at(y), before,
+            "stats 7", "stats 8", "ackRange, low, 0", "ackRange, high, 0");
+    }
+
+    /** An ACK without ranges fills the channel like any other. */
+    private static void fullOfEmptyAcks() {
+        Real x = new Real(4, 6, 1, 100);
+        for (int i = 1; i <= 8; i++) {
+            due.is("sendAck() " + i, x.sendAck(), 0);
+            due.is("in channel", x.stats(QuicStreams.STAT_ACK_IN_CHANNEL), i);
+        }
+        x.fill(0, 1, 1);
+        x.pass();
+        int[] before = Look.at(x);
+        due.is("ninth sendAck()", x.sendAck(), -1);
+        due.same("it changes nothing", Look.at(x), before);
+        due.is("deliver(1, 7)", x.deliver(1, 7), true);
+        due.is("sendAck() with room", x.sendAck(), 1);
+    }
+
+    /** A full DATA channel does not refuse an ACK. */
+    private static void fullDataChannel() {
+        Real x = new Real(32, 128, 1, 100);
+        x.fill(0, 9, 1);
+        x.pass();
+        x.send(8);
+        int[] before = Look.at(x);
+        due.is("sendAck()", x.sendAck(), 1);
+        due.onlyChanged("sendAck()", Look.at(x), before, "stats 7", "stats 8", "ackRange, low, 0", "ackRange, high, 0");
+    }
+
     public static void main(String[] args) {
         noRanges();
         runs();
@@ -141,6 +228,11 @@ public final class P05SendAckTest {
         creditCaps();
         full();
         senderUntouched();
+        manyRuns();
+        firstAndLastNumber();
+        creditsToTheEnd();
+        fullOfEmptyAcks();
+        fullDataChannel();
         due.finish();
     }
 }

@@ -1,5 +1,3 @@
-import java.lang.reflect.Field;
-
 /** Promise 6: deliver. */
 public final class P06DeliverTest {
     private static final Due due = new Due();
@@ -80,9 +78,8 @@ public final class P06DeliverTest {
      * so no run of calls leads to a violation; the receiver's rule can be tried only from inside.
      */
     private static void advertise(Real x, int k, int credit) throws ReflectiveOperationException {
-        Field f = QuicStreams.class.getDeclaredField("advertisedCredit");
-        f.setAccessible(true);
-        ((int[]) f.get(x.x))[k] = credit;
+        Inside place = Inside.of(() -> new Real(32, 128, 4, 100), y -> y.credit(5 + k), 17);
+        place.set(x, credit);
         due.is("credit(" + (5 + k) + ") as set", x.credit(5 + k), credit);
     }
 
@@ -133,6 +130,127 @@ public final class P06DeliverTest {
         receiver("no credit for offset 2", y, 0, 0, 0, 2);
         y.deliver(0, 0);
         receiver("credit for 0 and 1", y, 0, 2, 2, 2);
+    }
+
+    /** Offsets below rhigh need no connection credit, even where more is used than there is. */
+    private static void gapNeedsNoCredit() throws ReflectiveOperationException {
+        Real x = new Real(32, 128, 2, 100);
+        x.fill(0, 4, 7);
+        x.send(2);
+        x.deliver(0, 1);
+        receiver("offsets 2 and 3", x, 0, 4, 2, 0);
+        advertise(x, 4, 1);
+        x.deliver(0, 0);
+        receiver("offsets 0 and 1 without credit", x, 0, 4, 4, 0);
+    }
+
+    /** A byte that is discarded does not end the packet: the next stream's bytes are taken in. */
+    private static void violationThenNextStream() throws ReflectiveOperationException {
+        Real x = new Real(32, 128, 8, 100);
+        x.fill(0, 3, 7);
+        x.fill(3, 2, 9);
+        advertise(x, 0, 1);
+        x.pass();
+        receiver("stream 0", x, 0, 1, 1, 2);
+        receiver("stream 3", x, 3, 2, 2, 2);
+        due.is("read(3)", x.read(3), 9);
+    }
+
+    /** The last offset that a stream can have, with the last credit that there can be. */
+    private static void greatestCreditUsedUp() {
+        Real x = new Real(32, 128, 8, 100);
+        for (int s = 0; s < 4; s++) x.fill(s, 32, s);
+        for (int i = 0; i < 16; i++) x.pass();
+        for (int s = 0; s < 4; s++) receiver("stream " + s, x, s, 32, 32, 0);
+    }
+
+    /** Packet 0 is late, so its byte goes again in packet 2; both arrive. */
+    private static Real secondCopyOnItsWay() {
+        Real x = new Real(32, 128, 1, 10);
+        x.fill(0, 2, 7);
+        x.send(2);
+        x.deliver(0, 1);
+        x.passAck();
+        x.tick(10);
+        x.send(1);
+        x.deliver(0, 0);
+        return x;
+    }
+
+    private static void secondCopy() throws ReflectiveOperationException {
+        Real x = secondCopyOnItsWay();
+        due.is("packet 2 carries offset 0 again", x.frame(2, 0), 1);
+        int[] before = Look.at(x);
+        x.deliver(0, 0);
+        due.onlyChanged("a second copy", Look.at(x), before, "stats 6", "channelPn 0", "received 2");
+        due.is("received(2)", x.received(2), true);
+        due.is("read(0)", x.read(0), 7);
+
+        // Both copies have the same byte, so that the first one stays is seen only if it is changed.
+        Real y = secondCopyOnItsWay();
+        Inside.of(P06DeliverTest::secondCopyOnItsWay, z -> z.read(0), 99).set(y, 99);
+        y.deliver(0, 0);
+        due.is("a cell with its flag keeps its byte", y.read(0), 99);
+    }
+
+    /** D follows an ACK without ranges as well; only a clock set from inside leaves it work to do. */
+    private static void lossAfterAckWithoutRanges() throws ReflectiveOperationException {
+        Real x = new Real(32, 128, 1, 10);
+        x.sendAck();
+        x.fill(0, 2, 7);
+        x.lose();
+        x.pass();
+        x.sendAck();
+        x.deliver(1, 1);
+        Inside clock = Inside.of(() -> new Real(32, 128, 1, 10), y -> y.stats(QuicStreams.STAT_NOW), 10);
+        clock.set(x, 10);
+        due.is("before the ACK", x.packetState(0), QuicStreams.PKT_IN_FLIGHT);
+        due.is("deliver(1, 0)", x.deliver(1, 0), true);
+        due.is("after the ACK", x.packetState(0), QuicStreams.PKT_LOST);
+        due.is("largest", x.stats(QuicStreams.STAT_LARGEST), 1);
+    }
+
+    private static void everyAckSlot() {
+        for (int slot = 0; slot < 8; slot++) {
+            Real x = Channels.filled(8, 0);
+            x.deliver(1, slot);
+            Channels.knows(due, "the ACK of slot " + slot, x, 8, slot);
+            // ACKs that come in their order after it leave no trace of it but in the end.
+            for (int i = 0; i < 7; i++) due.is("deliver(1, 0)", x.deliver(1, 0), true);
+            due.is("largest in the end", x.stats(QuicStreams.STAT_LARGEST), 14);
+            due.is("credit(1) in the end", x.credit(1), Channels.STREAM_WINDOW + 8);
+            due.is("no more", x.deliver(1, 0), false);
+        }
+    }
+
+    /** The same ACK again: packets that are acknowledged are left as they are. */
+    private static void alreadyAcked() {
+        Real x = new Real(32, 128, 1, 1000);
+        x.fill(0, 4, 1);
+        x.send(4);
+        x.deliver(0, 3);
+        x.passAck();
+        x.deliver(0, 0);
+        x.sendAck();
+        x.sendAck();
+        x.deliver(1, 0);
+        due.is("spurious", x.stats(QuicStreams.STAT_SPURIOUS), 1);
+        int[] before = Look.at(x);
+        x.deliver(1, 0);
+        due.onlyChanged("the same ACK again", Look.at(x), before, "stats 7");
+    }
+
+    /** All numbers in one range, from the least to the greatest. */
+    private static void allNumbersAcked() {
+        Real x = new Real(32, 128, 1, 1000);
+        x.fill(0, 32, 1);
+        x.fill(1, 32, 1);
+        for (int i = 0; i < 64; i++) x.pass();
+        due.is("ranges", x.passAck(), 1);
+        for (int pn = 0; pn < 64; pn++) due.is("packetState(" + pn + ")", x.packetState(pn), QuicStreams.PKT_ACKED);
+        due.is("largest", x.stats(QuicStreams.STAT_LARGEST), 63);
+        due.is("lost", x.stats(QuicStreams.STAT_LOST), 0);
+        due.is("done", x.streamInfo(0, QuicStreams.INFO_DONE), 32);
     }
 
     private static void ackWithoutRanges() {
@@ -271,6 +389,15 @@ public final class P06DeliverTest {
         manyRanges();
         spurious();
         spuriousWhilePending();
+        Channels.everySlot(due, "deliver", Real::deliver);
+        gapNeedsNoCredit();
+        violationThenNextStream();
+        greatestCreditUsedUp();
+        secondCopy();
+        lossAfterAckWithoutRanges();
+        everyAckSlot();
+        alreadyAcked();
+        allNumbersAcked();
         due.finish();
     }
 }

@@ -66,10 +66,56 @@ public final class P07DropTest {
         due.is("count", x.stats(QuicStreams.STAT_ACK_IN_CHANNEL), 0);
     }
 
+    /** Whatever ACK is dropped, each of the others is still whole in the slot that it moved to. */
+    private static void everyAckSlot() {
+        for (int out = 0; out < 8; out++) {
+            for (int slot = 0; slot < 7; slot++) {
+                Real x = Channels.filled(8, 0);
+                x.drop(1, out);
+                x.deliver(1, slot);
+                String when = "ACK " + out + " dropped, slot " + slot + " delivered";
+                Channels.knows(due, when, x, 8, slot < out ? slot : slot + 1);
+            }
+        }
+    }
+
+    /** From the first slot and the last of a full channel: the packet is gone, and nothing else. */
+    private static void nothingElse() {
+        for (int slot : new int[] {0, 7}) {
+            Real x = Channels.filled(8, 8);
+            int[] before = Look.at(x);
+            x.drop(1, slot);
+            due.onlyChanged("drop(1, " + slot + ")", Look.at(x), before, "stats 7");
+            before = Look.at(x);
+            x.drop(0, slot);
+            due.onlyChanged("drop(0, " + slot + ")", Look.at(x), before, "stats 6", "channelPn 0", "channelPn 1",
+                "channelPn 2", "channelPn 3", "channelPn 4", "channelPn 5", "channelPn 6", "channelPn 7");
+        }
+    }
+
+    /** Dropping makes room: a full channel takes one packet again, at its end. */
+    private static void roomAgain() {
+        Real x = Channels.filled(8, 8);
+        x.fill(3, 2, 1);
+        due.is("full DATA", x.sendData(), QuicStreams.SEND_CHANNEL_FULL);
+        due.is("full ACK", x.sendAck(), -1);
+        x.drop(0, 4);
+        x.drop(1, 4);
+        due.is("sendData()", x.sendData(), 24);
+        due.is("channelPn(7)", x.channelPn(7), 24);
+        due.is("sendAck()", x.sendAck(), 4);
+        due.is("full DATA again", x.sendData(), QuicStreams.SEND_CHANNEL_FULL);
+        due.is("full ACK again", x.sendAck(), -1);
+    }
+
     public static void main(String[] args) {
         refused();
         data();
         acks();
+        Channels.everySlot(due, "drop", Real::drop);
+        everyAckSlot();
+        nothingElse();
+        roomAgain();
         due.finish();
     }
 }

@@ -148,6 +148,117 @@ public final class P08TickTest {
         due.is("over the wrap, at the delay", y.packetState(0), QuicStreams.PKT_LOST);
     }
 
+    private static void exactEndOfTheClock() {
+        Real x = new Real(32, 128, 1, 1000);
+        toWrap(x);
+        x.tick(647);
+        due.is("the greatest time", x.stats(QuicStreams.STAT_NOW), Integer.MAX_VALUE);
+        due.is("tick(0) there", x.tick(0), false);
+        due.is("tick(1001) there", x.tick(1001), false);
+        due.is("the time stays", x.stats(QuicStreams.STAT_NOW), Integer.MAX_VALUE);
+        due.is("tick(1)", x.tick(1), true);
+        due.is("the least time", x.stats(QuicStreams.STAT_NOW), Integer.MIN_VALUE);
+    }
+
+    /** Packet 0 was sent at 0, and only now the ACK of packet 1 makes D look at it. */
+    private static Real firstAckAt(int more, int turns) {
+        Real x = new Real(32, 128, 1, 1000);
+        x.fill(0, 2, 1);
+        x.send(2);
+        for (int i = 0; i < turns; i++) toWrap(x);
+        int left = more;
+        while (left > 0) {
+            int dt = Math.min(left, 1000);
+            x.tick(dt);
+            left -= dt;
+        }
+        x.deliver(0, 1);
+        x.passAck();
+        return x;
+    }
+
+    private static void differenceWraps() {
+        Real greatest = firstAckAt(647, 1);
+        due.is("now", greatest.stats(QuicStreams.STAT_NOW), Integer.MAX_VALUE);
+        due.is("the greatest difference", greatest.packetState(0), QuicStreams.PKT_LOST);
+        Real least = firstAckAt(648, 1);
+        due.is("now", least.stats(QuicStreams.STAT_NOW), Integer.MIN_VALUE);
+        due.is("the least difference", least.packetState(0), QuicStreams.PKT_IN_FLIGHT);
+        least.tick(1000);
+        due.is("still below 0", least.packetState(0), QuicStreams.PKT_IN_FLIGHT);
+        Real turned = firstAckAt(1296 + 999, 2);
+        due.is("now, a whole turn on", turned.stats(QuicStreams.STAT_NOW), 999);
+        due.is("a difference of 999 again", turned.packetState(0), QuicStreams.PKT_IN_FLIGHT);
+        turned.tick(1);
+        due.is("a difference of 1000 again", turned.packetState(0), QuicStreams.PKT_LOST);
+    }
+
+    private static void largestIsZero() {
+        Real x = new Real(32, 128, 1, 1);
+        x.fill(0, 4, 1);
+        x.pass();
+        for (int i = 0; i < 3; i++) x.lose();
+        x.passAck();
+        due.is("largest", x.stats(QuicStreams.STAT_LARGEST), 0);
+        int[] before = Look.at(x);
+        x.tick(1000);
+        due.onlyChanged("no packet is below 0", Look.at(x), before, "stats 0");
+    }
+
+    private static void largestIsTheLastNumber() {
+        Real x = new Real(32, 128, 1, 1000);
+        x.fill(0, 32, 1);
+        x.fill(1, 32, 1);
+        for (int pn = 0; pn < 63; pn++) x.lose();
+        x.pass();
+        x.passAck();
+        for (int pn = 0; pn < 61; pn++) due.is("packetState(" + pn + ")", x.packetState(pn), QuicStreams.PKT_LOST);
+        due.is("packetState(61)", x.packetState(61), QuicStreams.PKT_IN_FLIGHT);
+        due.is("packetState(62)", x.packetState(62), QuicStreams.PKT_IN_FLIGHT);
+        due.is("lost", x.stats(QuicStreams.STAT_LOST), 61);
+        x.tick(1000);
+        due.is("packetState(61) later", x.packetState(61), QuicStreams.PKT_LOST);
+        due.is("packetState(62) later", x.packetState(62), QuicStreams.PKT_LOST);
+        due.is("packetState(63) later", x.packetState(63), QuicStreams.PKT_ACKED);
+        due.is("lost in the end", x.stats(QuicStreams.STAT_LOST), 63);
+        due.is("they cannot go again", x.sendData(), QuicStreams.SEND_NO_NUMBERS);
+    }
+
+    /** A packet is declared lost while it is still in the channel, and nothing but S's marks and counters moves. */
+    private static void lossLeavesTheRest() {
+        Real x = new Real(32, 128, 2, 10);
+        x.fill(0, 2, 1);
+        x.fill(1, 2, 1);
+        x.send(2);
+        x.deliver(0, 1);
+        x.passAck();
+        x.sendAck();
+        int[] before = Look.at(x);
+        due.is("tick(10)", x.tick(10), true);
+        due.onlyChanged("a loss", Look.at(x), before, "stats 0", "stats 3", "packetState 0",
+            "streamInfo of stream 0, kind 2", "streamInfo of stream 0, kind 3");
+        due.is("pending", x.streamInfo(0, QuicStreams.INFO_PENDING), 2);
+        due.is("outstanding", x.streamInfo(0, QuicStreams.INFO_OUTSTANDING), 0);
+        before = Look.at(x);
+        x.tick(1000);
+        due.onlyChanged("lost and acknowledged packets stay", Look.at(x), before, "stats 0");
+        due.is("the lost packet can still arrive", x.deliver(0, 0), true);
+        due.is("received(0)", x.received(0), true);
+    }
+
+    /** With the least delay a packet of this very moment is not late, one of the moment before is. */
+    private static void leastDelay() {
+        Real x = new Real(32, 128, 1, 1);
+        x.fill(0, 3, 1);
+        x.lose();
+        x.tick(1);
+        x.lose();
+        x.pass();
+        x.passAck();
+        due.is("sent a moment before", x.packetState(0), QuicStreams.PKT_LOST);
+        due.is("sent in this moment", x.packetState(1), QuicStreams.PKT_IN_FLIGHT);
+    }
+
     public static void main(String[] args) {
         refused();
         withoutAck();
@@ -157,6 +268,12 @@ public final class P08TickTest {
         doneStaysDone();
         allFrames();
         wraps();
+        exactEndOfTheClock();
+        differenceWraps();
+        largestIsZero();
+        largestIsTheLastNumber();
+        lossLeavesTheRest();
+        leastDelay();
         due.finish();
     }
 }

@@ -34,6 +34,23 @@ public final class P11FrameTest {
                 due.is("frame(" + pn + ", " + s + ") later", x.frame(pn, s), want[pn][s]);
             }
         }
+
+        // All numbers used: 63 is the last one with a frame, and behind it there is nothing to look at.
+        Real y = new Real(32, 128, 1, 1000);
+        y.fill(0, 32, 1);
+        y.fill(3, 32, 1);
+        for (int i = 0; i < 64; i++) y.pass();
+        due.is("frame(0, 0)", y.frame(0, 0), 1);
+        due.is("frame(31, 0)", y.frame(31, 0), 31 * 16 + 1);
+        due.is("frame(32, 0)", y.frame(32, 0), -1);
+        due.is("frame(63, 3)", y.frame(63, 3), 31 * 16 + 1);
+        for (int s = -1; s <= 4; s++) {
+            due.is("frame(64, " + s + ")", y.frame(64, s), -1);
+            due.is("frame(-1, " + s + ")", y.frame(-1, s), -1);
+        }
+        due.is("frame(0, 4)", y.frame(0, 4), -1);
+        due.is("frame(63, 4)", y.frame(63, 4), -1);
+        due.is("frame(63, -1)", y.frame(63, -1), -1);
         due.finish();
     }
 }

@@ -144,6 +144,23 @@ public final class P06DeliverTest {
         receiver("offsets 0 and 1 without credit", x, 0, 4, 4, 0);
     }
 
+    /** The same holds for the greatest offset below rhigh, which comes a second time. */
+    private static void topOffsetAgainNeedsNoCredit() throws ReflectiveOperationException {
+        Real x = new Real(32, 128, 1, 10);
+        x.fill(0, 1, 7);
+        x.fill(1, 1, 8);
+        x.send(2);
+        x.deliver(0, 1);
+        x.passAck();
+        x.tick(10);
+        x.send(1);
+        x.deliver(0, 0);
+        due.is("packet 2 carries the only byte of stream 0", x.frame(2, 0), 1);
+        advertise(x, 4, 1);
+        x.deliver(0, 0);
+        receiver("offset 0 again without credit", x, 0, 1, 1, 0);
+    }
+
     /** A byte that is discarded does not end the packet: the next stream's bytes are taken in. */
     private static void violationThenNextStream() throws ReflectiveOperationException {
         Real x = new Real(32, 128, 8, 100);
@@ -391,6 +408,7 @@ public final class P06DeliverTest {
         spuriousWhilePending();
         Channels.everySlot(due, "deliver", Real::deliver);
         gapNeedsNoCredit();
+        topOffsetAgainNeedsNoCredit();
         violationThenNextStream();
         greatestCreditUsedUp();
         secondCopy();

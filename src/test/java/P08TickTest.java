@@ -246,6 +246,27 @@ public final class P08TickTest {
         due.is("received(0)", x.received(0), true);
     }
 
+    private static Real lastOneAcked() {
+        Real x = new Real(32, 128, 1, 10);
+        x.fill(0, 3, 1);
+        x.lose();
+        x.pass();
+        x.lose();
+        x.passAck();
+        return x;
+    }
+
+    /** The packet numbered largest is always acknowledged; only from inside it can be put in flight. */
+    private static void largestItselfIsLeft() throws ReflectiveOperationException {
+        Real x = lastOneAcked();
+        due.is("largest", x.stats(QuicStreams.STAT_LARGEST), 1);
+        Inside.of(P08TickTest::lastOneAcked, y -> y.packetState(1), QuicStreams.PKT_IN_FLIGHT)
+            .set(x, QuicStreams.PKT_IN_FLIGHT);
+        x.tick(1000);
+        int[] want = {QuicStreams.PKT_LOST, QuicStreams.PKT_IN_FLIGHT, QuicStreams.PKT_IN_FLIGHT};
+        for (int pn = 0; pn < 3; pn++) due.is("packetState(" + pn + ")", x.packetState(pn), want[pn]);
+    }
+
     /** With the least delay a packet of this very moment is not late, one of the moment before is. */
     private static void leastDelay() {
         Real x = new Real(32, 128, 1, 1);
@@ -259,7 +280,7 @@ public final class P08TickTest {
         due.is("sent in this moment", x.packetState(1), QuicStreams.PKT_IN_FLIGHT);
     }
 
-    public static void main(String[] args) {
+    public static void main(String[] args) throws ReflectiveOperationException {
         refused();
         withoutAck();
         packetThreshold();
@@ -273,6 +294,7 @@ public final class P08TickTest {
         largestIsZero();
         largestIsTheLastNumber();
         lossLeavesTheRest();
+        largestItselfIsLeft();
         leastDelay();
         due.finish();
     }
